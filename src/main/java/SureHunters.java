@@ -1078,7 +1078,7 @@ public final class SureHunters {
     /** A kind with so many hunters: what each couple of a row and a runner's place is worth. */
     private static final class Game {
         private final int kind;
-        private final int hunters;
+        /** Its rows: from the first one to the one behind the last. */
         private final int first;
         private final int past;
         private boolean ready;
@@ -1090,9 +1090,8 @@ public final class SureHunters {
         /** What helps() found; OTHERWISE while it has not looked. */
         private int helping;
 
-        private Game(int kind, int hunters, int first, int past) {
+        private Game(int kind, int first, int past) {
             this.kind = kind;
-            this.hunters = hunters;
             this.first = first;
             this.past = past;
         }
@@ -1154,7 +1153,7 @@ public final class SureHunters {
             this.net = net;
             for (int i = 0; i < tables.length; i++) {
                 int hunters = i % MOST_HUNTERS + 1;
-                tables[i] = new Game(i / MOST_HUNTERS, hunters, FIRST_ROW[hunters], FIRST_ROW[hunters + 1]);
+                tables[i] = new Game(i / MOST_HUNTERS, FIRST_ROW[hunters], FIRST_ROW[hunters + 1]);
             }
         }
 
@@ -1223,8 +1222,10 @@ public final class SureHunters {
             return bits;
         }
 
+        /** Whether another round may find more: something is new, and not all is won yet. */
         private boolean takeNews(Game game, int round) {
             boolean more = false;
+            boolean open = false;
             for (int row = game.first; row < game.past; row++) {
                 int fresh = news[row] & ~won[row];
                 news[row] = 0;
@@ -1233,8 +1234,9 @@ public final class SureHunters {
                     game.setWorth(row, fresh, round);
                     more = true;
                 }
+                open = open || isOnNet(row) && won[row] != net.all();
             }
-            return more;
+            return more && open;
         }
 
         private void findOpening(Game game) {

@@ -500,6 +500,7 @@ public final class PromisesTest {
         due("beside START", path(5).trial(0, 1, 1), 1);
         // A ring of 4 from 0: 16838 % 4 is 2; BEST stays at 0; 38526 % 3 is 0, the first of 1, 2, 3; then caught.
         due("a ring that one alone does not hold", ring(4).trial(0, 1, 1), 2);
+        due("by the last turn of all", ring(9).trial(0, 1, 17032), 100);
     }
 
     private static void helps() {

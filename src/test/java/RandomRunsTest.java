@@ -1,14 +1,20 @@
+import java.lang.reflect.InvocationTargetException;
+import java.lang.reflect.Method;
+import java.lang.reflect.Modifier;
 import java.util.ArrayList;
 import java.util.Arrays;
+import java.util.HashMap;
 import java.util.List;
+import java.util.Map;
 import java.util.NoSuchElementException;
 import java.util.Random;
 
 /** Drawn runs of calls, each answered by the class and by the model. The seeds are fixed. */
 public final class RandomRunsTest {
     private static final int THROWN = Integer.MIN_VALUE;
-    private static final int RUNS = Integer.getInteger("runs", 260);
+    private static final int RUNS = Integer.getInteger("runs", 400);
     private static final int SEED = Integer.getInteger("seed", 1);
+    private static final Map<String, Method> METHODS = new HashMap<>();
     private static int wrong = 0;
 
     private final Random random;
@@ -34,9 +40,8 @@ public final class RandomRunsTest {
 
     private void goThrough(int run) {
         // Nine places are slow in the model: most nets are smaller.
-        int most = run % 13 == 0 ? 9 : run % 3 == 0 ? 7 : 6;
-        int length = run % 13 == 0 ? 90 : 300;
-        for (int i = 0; i < length && calls < 500; i++) {
+        int most = run % 8 == 0 ? 9 : run % 3 == 0 ? 7 : 6;
+        for (int i = 0; calls < 470; i++) {
             boolean renew = i == 0 || random.nextInt(60) == 0;
             if (!(renew ? tellNet(random.nextInt(most + 1)) : anyCall())) {
                 wrong++;
@@ -113,7 +118,7 @@ public final class RandomRunsTest {
     }
 
     private int hunters() {
-        return random.nextInt(15) == 0 ? random.nextInt(6) - 1 : 1 + random.nextInt(model.about(0) > 7 ? 2 : 3);
+        return random.nextInt(15) == 0 ? random.nextInt(6) - 1 : 1 + random.nextInt(3);
     }
 
     private int maybe(int place) {
@@ -122,7 +127,7 @@ public final class RandomRunsTest {
 
     private int[] row() {
         int b = maybe(place());
-        int c = b == -1 && random.nextInt(9) != 0 || model.about(0) > 7 ? -1 : maybe(place());
+        int c = b == -1 && random.nextInt(9) != 0 ? -1 : maybe(place());
         return new int[] {place(), b, c};
     }
 
@@ -137,7 +142,7 @@ public final class RandomRunsTest {
 
     private boolean anyCall() {
         int[] r = row();
-        switch (random.nextInt(38)) {
+        switch (random.nextInt(40)) {
             case 0:
                 return check("fault", index());
             case 1:
@@ -154,7 +159,7 @@ public final class RandomRunsTest {
             case 7:
                 return check("left") && check("image", place());
             case 8:
-                return model.about(0) > 7 || check("fewest", kind());
+                return check("fewest", kind());
             case 9:
                 return check("time", kind(), hunters());
             case 10:
@@ -169,9 +174,9 @@ public final class RandomRunsTest {
             case 15:
                 return check("trial", kind(), hunters(), random.nextInt());
             case 16:
-                return check("helps", kind(), model.about(0) > 6 ? 1 : hunters());
+                return check("helps", kind(), hunters());
             case 17:
-                return model.about(0) > 7 || check("symmetries") && check("alike", place());
+                return check("symmetries") && check("alike", place());
             case 18:
                 return check("guard", set());
             case 19:
@@ -206,10 +211,27 @@ public final class RandomRunsTest {
                 return random.nextInt(4) != 0 || check("become", random.nextInt(5) - 1);
             case 36:
                 return check("undo") && wholeScene() && check("about", 0) && check("about", 1) && check("about", 7);
+            case 37:
+            case 38:
+                return oddCall();
             default:
                 return random.nextInt(4) != 0 || check("end", random.nextInt(5) - 1)
                         && check("feed", random.nextInt(), -1, 0, Integer.MIN_VALUE, 7) && check("about", 8);
         }
+    }
+
+    /** Any call with any numbers: what can't be must be refused, and nothing else may be thrown. */
+    private boolean oddCall() {
+        String[] names = {"fault", "about", "near", "distance", "corner", "goes", "image", "fewest", "time", "start",
+            "sure", "refusals", "refusal", "trial", "helps", "alike", "guard", "guards", "sweep", "swept", "begin",
+            "scene", "best", "hunt", "run", "play", "toggle", "become", "end"};
+        int[] odd = {Integer.MIN_VALUE, Integer.MAX_VALUE, -2, -1, 0, 1, 2, 3, 8, 9, 10, 13, 31, 32, 33, 64, 511, 512};
+        String name = names[random.nextInt(names.length)];
+        int[] a = new int[methodOf(Model.class, name).getParameterCount()];
+        for (int i = 0; i < a.length; i++) {
+            a[i] = random.nextBoolean() ? place() : odd[random.nextInt(odd.length)];
+        }
+        return check(name, a);
     }
 
     private boolean wholeScene() {
@@ -241,8 +263,8 @@ public final class RandomRunsTest {
 
     private boolean check(String name, int... a) {
         calls++;
-        int due = answer(name, a, false);
-        int got = answer(name, a, true);
+        int due = answer(model, name, a);
+        int got = answer(real, name, a);
         told.add(name + Arrays.toString(a) + "=" + (due == THROWN ? "throws" : "" + due));
         if (got != due) {
             told.add("but answered " + (got == THROWN ? "throws" : "" + got));
@@ -250,99 +272,28 @@ public final class RandomRunsTest {
         return got == due;
     }
 
-    private int answer(String name, int[] a, boolean ofReal) {
+    private int answer(Object of, String name, int[] a) {
         try {
-            return ofReal ? realAnswer(name, a) : modelAnswer(name, a);
-        } catch (NoSuchElementException e) {
-            return THROWN;
+            Object answer = methodOf(of.getClass(), name).invoke(of, Arrays.stream(a).boxed().toArray());
+            return answer instanceof Boolean b ? (b ? 1 : 0) : (Integer) answer;
+        } catch (InvocationTargetException e) {
+            if (e.getCause() instanceof NoSuchElementException) {
+                return THROWN;
+            }
+            throw new IllegalStateException(told + " and then " + name + Arrays.toString(a), e);
+        } catch (IllegalAccessException e) {
+            throw new IllegalStateException(e);
         }
     }
 
-    private static int number(boolean b) {
-        return b ? 1 : 0;
-    }
-
-    private int realAnswer(String name, int[] a) {
-        SureHunters x = real;
-        return switch (name) {
-            case "feed" -> x.feed(a[0], a[1], a[2], a[3], a[4]);
-            case "end" -> x.end(a[0]);
-            case "net" -> x.net();
-            case "fault" -> x.fault(a[0]);
-            case "about" -> x.about(a[0]);
-            case "near" -> x.near(a[0]);
-            case "distance" -> x.distance(a[0], a[1]);
-            case "corner" -> x.corner(a[0]);
-            case "goes" -> x.goes(a[0]);
-            case "left" -> x.left();
-            case "image" -> x.image(a[0]);
-            case "fewest" -> x.fewest(a[0]);
-            case "time" -> x.time(a[0], a[1]);
-            case "start" -> x.start(a[0], a[1], a[2]);
-            case "sure" -> x.sure(a[0], a[1], a[2], a[3]);
-            case "refusals" -> x.refusals(a[0], a[1]);
-            case "refusal" -> x.refusal(a[0], a[1], a[2], a[3]);
-            case "trial" -> x.trial(a[0], a[1], a[2]);
-            case "helps" -> x.helps(a[0], a[1]);
-            case "symmetries" -> x.symmetries();
-            case "alike" -> x.alike(a[0]);
-            case "guard" -> x.guard(a[0]);
-            case "guards" -> x.guards(a[0], a[1], a[2]);
-            case "sweep" -> x.sweep(a[0]);
-            case "swept" -> x.swept(a[0], a[1], a[2]);
-            case "begin" -> x.begin(a[0], a[1], a[2], a[3], a[4]);
-            case "scene" -> x.scene(a[0]);
-            case "best" -> x.best(a[0]);
-            case "safe" -> x.safe();
-            case "hunt" -> number(x.hunt(a[0], a[1], a[2]));
-            case "run" -> number(x.run(a[0]));
-            case "play" -> x.play(a[0]);
-            case "toggle" -> x.toggle(a[0], a[1]);
-            case "become" -> x.become(a[0]);
-            case "undo" -> number(x.undo());
-            default -> throw new IllegalStateException(name);
-        };
-    }
-
-    private int modelAnswer(String name, int[] a) {
-        Model x = model;
-        return switch (name) {
-            case "feed" -> x.feed(a[0], a[1], a[2], a[3], a[4]);
-            case "end" -> x.end(a[0]);
-            case "net" -> x.net();
-            case "fault" -> x.fault(a[0]);
-            case "about" -> x.about(a[0]);
-            case "near" -> x.near(a[0]);
-            case "distance" -> x.distance(a[0], a[1]);
-            case "corner" -> x.corner(a[0]);
-            case "goes" -> x.goes(a[0]);
-            case "left" -> x.left();
-            case "image" -> x.image(a[0]);
-            case "fewest" -> x.fewest(a[0]);
-            case "time" -> x.time(a[0], a[1]);
-            case "start" -> x.start(a[0], a[1], a[2]);
-            case "sure" -> x.sure(a[0], a[1], a[2], a[3]);
-            case "refusals" -> x.refusals(a[0], a[1]);
-            case "refusal" -> x.refusal(a[0], a[1], a[2], a[3]);
-            case "trial" -> x.trial(a[0], a[1], a[2]);
-            case "helps" -> x.helps(a[0], a[1]);
-            case "symmetries" -> x.symmetries();
-            case "alike" -> x.alike(a[0]);
-            case "guard" -> x.guard(a[0]);
-            case "guards" -> x.guards(a[0], a[1], a[2]);
-            case "sweep" -> x.sweep(a[0]);
-            case "swept" -> x.swept(a[0], a[1], a[2]);
-            case "begin" -> x.begin(a[0], a[1], a[2], a[3], a[4]);
-            case "scene" -> x.scene(a[0]);
-            case "best" -> x.best(a[0]);
-            case "safe" -> x.safe();
-            case "hunt" -> number(x.hunt(a[0], a[1], a[2]));
-            case "run" -> number(x.run(a[0]));
-            case "play" -> x.play(a[0]);
-            case "toggle" -> x.toggle(a[0], a[1]);
-            case "become" -> x.become(a[0]);
-            case "undo" -> number(x.undo());
-            default -> throw new IllegalStateException(name);
-        };
+    private static Method methodOf(Class<?> owner, String name) {
+        return METHODS.computeIfAbsent(owner.getName() + "." + name, key -> {
+            for (Method m : owner.getDeclaredMethods()) {
+                if (m.getName().equals(name) && !Modifier.isPrivate(m.getModifiers())) {
+                    return m;
+                }
+            }
+            throw new IllegalStateException("no method " + key);
+        });
     }
 }
