@@ -65,6 +65,49 @@ public final class AnewBoundsTest {
         Bench.due("no acts", x.about(7), 0);
     }
 
+    @Bench.Says(promise = 0, value = "(the NET, the SCENE are as ahead of it)")
+    static void nothingIsToldOfAFormerNet() {
+        // Each net is asked about everything, so an answer that outlives its net would show (within 512 calls).
+        SureHunters x = Bench.path(5);
+        sameAnswers("a path", x, Bench.path(5));
+        x.toggle(0, 4);
+        sameAnswers("a line more", x, Bench.ring(5));
+        x.toggle(2, 3);
+        x.become(1);
+        sameAnswers("a line fewer, turned round", x, Bench.made(5, "ac ad bd be cd ce"));
+        x.undo();
+        sameAnswers("not turned round", x, Bench.made(5, "ab bc de ea"));
+        x.undo();
+        x.undo();
+        sameAnswers("a path again", x, Bench.path(5));
+        Bench.feed(x, Bench.text(3, "ab bc ca"));
+        x.net();
+        sameAnswers("a net anew", x, Bench.ring(3));
+    }
+
+    private static void sameAnswers(String net, SureHunters x, SureHunters fresh) {
+        Bench.due(net + ": whether all answers are those of a new object", answers(x).equals(answers(fresh)), true);
+    }
+
+    private static String answers(SureHunters x) {
+        StringBuilder told = new StringBuilder();
+        for (int what = 0; what <= 6; what++) {
+            told.append(x.about(what)).append(' ');
+        }
+        for (int p = NONE; p < x.about(0); p++) {
+            told.append(x.near(p)).append(' ').append(x.goes(p)).append(' ').append(x.image(p)).append(' ');
+            told.append(x.alike(p)).append(' ').append(x.guard(1 << p & 511)).append(' ');
+        }
+        for (int kind = 0; kind < 3; kind++) {
+            for (int hunters = 1; hunters <= 2; hunters++) {
+                told.append(x.time(kind, hunters)).append(' ').append(x.refusals(kind, hunters)).append(' ');
+                told.append(x.helps(kind, hunters)).append(' ').append(x.trial(kind, hunters, 5)).append(' ');
+            }
+        }
+        told.append(x.symmetries()).append(' ').append(x.left()).append(' ');
+        return told.append(x.sweep(1)).append(' ').append(x.sweep(2)).toString();
+    }
+
     @Bench.Says(promise = 0, value = "12 are kept, the oldest go.")
     static void twelveAreKept() {
         SureHunters x = Bench.alone(9);
@@ -201,6 +244,10 @@ public final class AnewBoundsTest {
         Bench.due("near itself still", x.near(4), 511);
         x.become(1);
         Bench.due("and back", x.about(1), 0);
+        x.undo();
+        Bench.due("undone: all couples", x.about(1), 36);
+        x.undo();
+        Bench.due("undone: nine alone", x.about(1), 0);
         Bench.due("one place", Bench.alone(1).become(1), 1);
     }
 

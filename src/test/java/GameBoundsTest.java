@@ -443,6 +443,11 @@ public final class GameBoundsTest {
         Bench.due("the ends of a path", Bench.path(9).alike(8), 0);
         Bench.due("its middle", Bench.path(9).alike(4), 4);
         Bench.due("one place", Bench.alone(1).alike(0), 0);
+        SureHunters y = Bench.made(9, "ab bc cd de ef fg gh hi");
+        for (int p = 8; p >= 0; p--) {
+            Bench.due("on a path of nine: alike(" + p + ")", y.alike(p), Math.min(p, 8 - p));
+            Bench.due("symmetries all the same", y.symmetries(), 2);
+        }
         Bench.due("not the ring of another length", Bench.made(9, "ab bc cd de ef fa gh hi ig").alike(7), 6);
     }
 

@@ -41,6 +41,10 @@ public final class SceneBoundsTest {
         // 0 can come to 1 and 3 to 2, but 0 never to 2 or 3.
         Bench.due("one goes for two", y.hunt(2, 3, NONE), false);
         Bench.due("a couple", y.hunt(1, 2, NONE), true);
+        SureHunters wide = scene(Bench.complete(9), 0, 0, 0, 0, 5);
+        Bench.due("the last of all 165 rows", wide.hunt(8, 8, 8), true);
+        wide.undo();
+        Bench.due("the first of those that catch", wide.best(0) * 100 + wide.best(1) * 10 + wide.best(2), 5);
     }
 
     @Bench.Says(promise = 0, value = "KIND 1 (lazy): one at most leaves its PLACE")
@@ -59,6 +63,10 @@ public final class SceneBoundsTest {
         Bench.due("both by one, seen as one by two", y.hunt(2, 3, NONE), false);
         SureHunters z = scene(Bench.ring(3), 1, 0, 1, NONE, 2);
         Bench.due("both by one, seen as one alone", z.hunt(1, 2, NONE), true);
+        SureHunters three = scene(Bench.path(5), 1, 0, 2, 4, 1);
+        Bench.due("the second of three", three.hunt(0, 3, 4), true);
+        three.undo();
+        Bench.due("the third of three", three.hunt(0, 2, 3), true);
     }
 
     @Bench.Says(promise = 0, value = "then, if it isn't CAUGHT, the RUNNER's turn: it goes to a PLACE NEAR its own, or stays")
@@ -140,6 +148,9 @@ public final class SceneBoundsTest {
         SureHunters last = scene(Bench.path(3), 0, 0, NONE, NONE, 1);
         last.hunt(0, NONE, NONE);
         Bench.due("the runner: 2 is worth two, 1 but one", last.best(0), 2);
+        SureHunters first = scene(Bench.path(3), 0, 2, NONE, NONE, 1);
+        first.hunt(2, NONE, NONE);
+        Bench.due("the runner: 0 is worth two, 1 but one", first.best(0), 0);
     }
 
     @Bench.Says(promise = 0, value = "SAFE (RUNNER's turn): PLACES that it can go to by which WORTH is NONE.")

@@ -25,6 +25,8 @@ public final class TextBoundsTest {
         Bench.due("its last line counts", x.about(1), 1);
         Bench.faulty(full.substring(0, 599) + "?", 1, 599);
         Bench.faulty(full.substring(0, 599) + " ", 2, 600);
+        Bench.due("600 blanks", Bench.placesOf(blanks(600)), 0);
+        Bench.faulty("a".repeat(600), 1, 0);
     }
 
     @Bench.Says(promise = 0, value = "{line}")
@@ -116,6 +118,8 @@ public final class TextBoundsTest {
         Bench.faulty("place a;line a place;", 2, 15);
         Bench.due("words that are like them",
                 Bench.placesOf("place plac;place places;place lin;place lines;place p;place l;"), 6);
+        Bench.due("words that are like them but for a letter",
+                Bench.placesOf("place glace;place plane;place placd;place fine;place lime;place link;"), 6);
     }
 
     @Bench.Says(promise = 0, value = "FAULTS, the first by its place")
@@ -373,6 +377,30 @@ public final class TextBoundsTest {
         Bench.due("worth", x.scene(6), 1);
         Bench.due("undo()", x.undo(), true);
         Bench.due("row", Bench.row(x), 1);
+    }
+
+    @Bench.Says(promise = 4, value = "NONE: a FAULT (all else stays).")
+    static void nothingOfAFaultyTextIsLeft() {
+        // Two places and a line were read ahead of the fault: none of it may come to light by a later call.
+        String faulty = "place x;place y;line x y;place x;";
+        SureHunters toggled = Bench.path(4);
+        Bench.feed(toggled, faulty);
+        toggled.net();
+        Bench.due("a line comes", toggled.toggle(0, 3), 1);
+        Bench.due("to the net that stood", toggled.about(0) * 10 + toggled.about(1), 44);
+        SureHunters turned = Bench.path(4);
+        Bench.feed(turned, faulty);
+        turned.net();
+        Bench.due("turned round is the net that stood", turned.become(1) * 10 + turned.about(1), 43);
+        SureHunters helped = Bench.ring(4);
+        Bench.feed(helped, faulty);
+        helped.net();
+        Bench.due("the first line that helps there", helped.helps(0, 1), 1);
+        SureHunters empty = new SureHunters();
+        Bench.feed(empty, faulty);
+        empty.net();
+        Bench.due("no places as before", empty.about(0), 0);
+        Bench.refused(empty, "no line there", () -> empty.toggle(0, 1), NONE);
     }
 
     // ---- promise 5

@@ -33,6 +33,12 @@ public final class WatchBoundsTest {
         Bench.due("the runner beside the set", x.guards(15, 0, 4), 0);
         Bench.due("the runner one line further", x.guards(15, 0, 5), 1);
         Bench.due("the hunter one line nearer", x.guards(15, 1, 4), 1);
+        SureHunters y = Bench.made(6, "fa ab bc cd de");
+        Bench.due("the first place beside the set", y.guards(30, 4, 0), 0);
+        Bench.due("the last one further", y.guards(30, 4, 5), 1);
+        // The ways round a ring: as long through the set as outside of it, then one line longer.
+        Bench.due("four of a ring of six", Bench.ring(6).guard(15), 6);
+        Bench.due("five of a ring of seven", Bench.ring(7).guard(31), 0);
     }
 
     @Bench.Says(promise = 0, value = "DARK are PLACES at which it may be: at first all but those of the row at which they begin")
