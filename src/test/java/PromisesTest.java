@@ -1,14 +1,8 @@
-import java.nio.charset.StandardCharsets;
-import java.util.Arrays;
-import java.util.NoSuchElementException;
-import java.util.function.IntSupplier;
-
 /** Each promise of the document by hand: ordinary inputs, the edges that it names, wrong inputs. */
 public final class PromisesTest {
     private static final int NONE = SureHunters.NONE;
     private static final int MIN = Integer.MIN_VALUE;
     private static final int MAX = Integer.MAX_VALUE;
-    private static final int THROWN = -77;
     private static int done = 0;
     private static int wrong = 0;
     private static int promise = 0;
@@ -58,71 +52,6 @@ public final class PromisesTest {
         due(call, got ? 1 : 0, want ? 1 : 0);
     }
 
-    private static int thrown(IntSupplier call) {
-        try {
-            return call.getAsInt();
-        } catch (NoSuchElementException e) {
-            return THROWN;
-        }
-    }
-
-    private static void feed(SureHunters x, String text) {
-        byte[] bytes = text.getBytes(StandardCharsets.ISO_8859_1);
-        byte[] padded = Arrays.copyOf(bytes, (bytes.length + 19) / 20 * 20);
-        int before = x.about(8);
-        for (int i = 0; i < padded.length; i += 20) {
-            int[] v = new int[5];
-            for (int j = 0; j < 20; j++) {
-                v[j / 4] = v[j / 4] << 8 | padded[i + j] & 255;
-            }
-            x.feed(v[0], v[1], v[2], v[3], v[4]);
-        }
-        x.end(before + bytes.length);
-    }
-
-    /** A net of places a, b, c .. with lines told as couples of letters: "ab bc". */
-    private static String text(int places, String lines) {
-        StringBuilder text = new StringBuilder();
-        for (int p = 0; p < places; p++) {
-            text.append("place ").append((char) ('a' + p)).append(';');
-        }
-        for (String line : lines.split(" ")) {
-            if (!line.isEmpty()) {
-                text.append("line ").append(line.charAt(0)).append(' ').append(line.charAt(1)).append(';');
-            }
-        }
-        return text.toString();
-    }
-
-    private static SureHunters made(int places, String lines) {
-        SureHunters x = new SureHunters();
-        feed(x, text(places, lines));
-        if (x.net() != places) {
-            throw new IllegalStateException("the test's own net is wrong: " + lines);
-        }
-        return x;
-    }
-
-    private static SureHunters path(int places) {
-        return made(places, "ab bc cd de ef fg gh hi".substring(0, Math.max(0, 3 * places - 4)));
-    }
-
-    private static SureHunters ring(int places) {
-        char last = (char) ('a' + places - 1);
-        return made(places, "ab bc cd de ef fg gh hi".substring(0, 3 * places - 4) + " a" + last);
-    }
-
-    private static SureHunters complete(int places) {
-        SureHunters x = made(places, "");
-        x.become(1);
-        return x;
-    }
-
-    /** Three rows of three, all in one row or column joined: the least net that three lazy hunters need. */
-    private static SureHunters rook() {
-        return made(9, "ab ac bc de df ef gh gi hi ad ag dg be bh eh cf ci fi");
-    }
-
     private static void newObject() {
         promise = 1;
         SureHunters x = new SureHunters();
@@ -167,9 +96,9 @@ public final class PromisesTest {
         due("end(8)", x.end(8), NONE);
         due("end(0)", x.end(0), 0);
         due("bytes", x.about(8), 0);
-        feed(x, "place a;place b;line a b;xxx");
+        Bench.feed(x, "place a;place b;line a b;xxx");
         x.end(25);
-        feed(x, "place c;");
+        Bench.feed(x, "place c;");
         due("the first bytes stay", x.net(), 3);
         due("lines", x.about(1), 1);
     }
@@ -177,14 +106,14 @@ public final class PromisesTest {
     private static void netAndFault() {
         promise = 4;
         SureHunters x = new SureHunters();
-        feed(x, "place a;place b ; line\nb a;");
+        Bench.feed(x, "place a;place b ; line\nb a;");
         due("net()", x.net(), 2);
         due("the tape is empty", x.about(8), 0);
         due("lines", x.about(1), 1);
         x.begin(0, 0, NONE, NONE, 1);
         x.toggle(0, 1);
         x.begin(1, 0, NONE, NONE, 1);
-        feed(x, "place z");
+        Bench.feed(x, "place z");
         due("net() with a fault", x.net(), NONE);
         due("the tape is empty", x.about(8), 0);
         due("the net stays", x.about(0), 2);
@@ -196,24 +125,25 @@ public final class PromisesTest {
         due("no acts", x.about(7), 0);
         due("undo()", x.undo(), false);
         due("no places", x.about(0), 0);
-        feed(x, " \n ");
+        Bench.feed(x, " \n ");
         due("net() of blanks", x.net(), 0);
-        feed(x, "placea;");
+        Bench.feed(x, "placea;");
         due("net() of a word that is none of the two", x.net(), NONE);
-        feed(x, "place places;place lines;place pla;line pla places;");
+        Bench.feed(x, "place places;place lines;place pla;line pla places;");
         due("names that begin like the words", x.net(), 3);
         due("lines", x.near(0), 5);
-        feed(x, "place abcdef;place abcdeg;place abcde;line abcdeg abcde;");
+        Bench.feed(x, "place abcdef;place abcdeg;place abcde;line abcdeg abcde;");
         due("names of six letters", x.net(), 3);
         due("the line", x.near(1), 6);
-        feed(x, text(9, "ab ac ad ae af ag ah ai bc bd be bf bg bh bi cd ce cf cg ch ci de df dg dh di ef eg eh ei fg fh fi gh"));
+        Bench.feed(x, Bench.text(9, "ab ac ad ae af ag ah ai bc bd be bf bg bh bi "
+                + "cd ce cf cg ch ci de df dg dh di ef eg eh ei fg fh fi gh"));
         due("nine places", x.net(), 9);
         due("lines", x.about(1), 34);
 
         promise = 5;
         due("fault(0) without", x.fault(0), 0);
         due("fault(1) without", x.fault(1), NONE);
-        feed(x, "place a;;");
+        Bench.feed(x, "place a;;");
         x.net();
         due("fault(0)", x.fault(0), 2);
         due("fault(1)", x.fault(1), 8);
@@ -230,7 +160,7 @@ public final class PromisesTest {
 
     private static void faulty(String text, int fault, int at) {
         SureHunters x = new SureHunters();
-        feed(x, text);
+        Bench.feed(x, text);
         due("net() of " + text, x.net(), NONE);
         due("fault(0) of " + text, x.fault(0), fault);
         due("fault(1) of " + text, x.fault(1), at);
@@ -268,7 +198,7 @@ public final class PromisesTest {
         faulty("line a a;", 3, 5);
         faulty("place a;place b;line a b;line a b;", 4, 32);
         faulty("place a;place b;line a b;line b a ?", 4, 32);
-        String nine = text(9, "");
+        String nine = Bench.text(9, "");
         faulty(nine + "place j;", 5, 72);
         faulty(nine + "place a;", 5, 72);
         faulty(nine + "place", 5, 72);
@@ -278,7 +208,7 @@ public final class PromisesTest {
 
     private static void about() {
         promise = 6;
-        SureHunters x = made(6, "ab bc ca de");
+        SureHunters x = Bench.made(6, "ab bc ca de");
         due("places", x.about(0), 6);
         due("lines", x.about(1), 4);
         due("parts", x.about(2), 3);
@@ -287,74 +217,74 @@ public final class PromisesTest {
         due("cover", x.about(5), 3);
         due("cover's bits: the first row", x.about(6), 1 | 8 | 32);
         due("acts", x.about(7), 0);
-        feed(x, "abc");
+        Bench.feed(x, "abc");
         due("bytes", x.about(8), 3);
         due("about(9)", x.about(9), NONE);
         due("about(-1)", x.about(-1), NONE);
         due("about(MAX)", x.about(MAX), NONE);
         x.toggle(0, 3);
         due("acts", x.about(7), 1);
-        due("girth of a tree", path(5).about(3), NONE);
-        due("low of a tree", path(5).about(4), 1);
-        due("low of one place", path(1).about(4), 1);
-        due("girth of a ring", ring(9).about(3), 9);
-        due("low of a ring of 5", ring(5).about(4), 2);
-        due("low of a ring of 4", ring(4).about(4), 2);
-        due("low of a ring of 3", ring(3).about(4), 1);
-        due("low of a ring with a tail", made(6, "ab bc cd de ea ef").about(4), 1);
-        due("low of a ring of 4 with a tail", made(5, "ab bc cd da ae").about(4), 2);
-        due("cover of a path", path(6).about(6), 2 | 16);
-        due("cover of a longer path: the first row", path(7).about(6), 1 | 4 | 32);
-        due("cover of places alone", made(3, "").about(6), 7);
-        due("cover of a star", made(4, "da db dc").about(6), 8);
-        due("lines of all couples", complete(9).about(1), 36);
-        due("parts of places alone", made(9, "").about(2), 9);
+        due("girth of a tree", Bench.path(5).about(3), NONE);
+        due("low of a tree", Bench.path(5).about(4), 1);
+        due("low of one place", Bench.path(1).about(4), 1);
+        due("girth of a ring", Bench.ring(9).about(3), 9);
+        due("low of a ring of 5", Bench.ring(5).about(4), 2);
+        due("low of a ring of 4", Bench.ring(4).about(4), 2);
+        due("low of a ring of 3", Bench.ring(3).about(4), 1);
+        due("low of a ring with a tail", Bench.made(6, "ab bc cd de ea ef").about(4), 1);
+        due("low of a ring of 4 with a tail", Bench.made(5, "ab bc cd da ae").about(4), 2);
+        due("cover of a path", Bench.path(6).about(6), 2 | 16);
+        due("cover of a longer path: the first row", Bench.path(7).about(6), 1 | 4 | 32);
+        due("cover of places alone", Bench.made(3, "").about(6), 7);
+        due("cover of a star", Bench.made(4, "da db dc").about(6), 8);
+        due("lines of all couples", Bench.complete(9).about(1), 36);
+        due("parts of places alone", Bench.made(9, "").about(2), 9);
     }
 
     private static void near() {
         promise = 7;
-        SureHunters x = path(4);
+        SureHunters x = Bench.path(4);
         due("near(0)", x.near(0), 3);
         due("near(1)", x.near(1), 7);
         due("near(3)", x.near(3), 12);
         due("near(4)", x.near(4), NONE);
         due("near(-1)", x.near(-1), NONE);
         due("near(MIN)", x.near(MIN), NONE);
-        due("near of nine", complete(9).near(8), 511);
+        due("near of nine", Bench.complete(9).near(8), 511);
     }
 
     private static void distance() {
         promise = 8;
-        SureHunters x = made(6, "ab bc cd de ea");
+        SureHunters x = Bench.made(6, "ab bc cd de ea");
         due("distance(0, 0)", x.distance(0, 0), 0);
         due("distance(0, 3)", x.distance(0, 3), 2);
         due("distance(3, 0)", x.distance(3, 0), 2);
         due("distance(0, 5)", x.distance(0, 5), NONE);
-        due("distance(0, 6)", thrown(() -> x.distance(0, 6)), THROWN);
-        due("distance(6, 0)", thrown(() -> x.distance(6, 0)), THROWN);
-        due("distance(-1, 0)", thrown(() -> x.distance(-1, 0)), THROWN);
-        due("distance(0, MIN)", thrown(() -> x.distance(0, MIN)), THROWN);
-        due("without places", thrown(() -> new SureHunters().distance(0, 0)), THROWN);
-        due("the longest", path(9).distance(8, 0), 8);
+        due("distance(0, 6)", Bench.thrown(() -> x.distance(0, 6)), Bench.THROWN);
+        due("distance(6, 0)", Bench.thrown(() -> x.distance(6, 0)), Bench.THROWN);
+        due("distance(-1, 0)", Bench.thrown(() -> x.distance(-1, 0)), Bench.THROWN);
+        due("distance(0, MIN)", Bench.thrown(() -> x.distance(0, MIN)), Bench.THROWN);
+        due("without places", Bench.thrown(() -> new SureHunters().distance(0, 0)), Bench.THROWN);
+        due("the longest", Bench.path(9).distance(8, 0), 8);
     }
 
     private static void corner() {
         promise = 9;
-        SureHunters x = path(4);
+        SureHunters x = Bench.path(4);
         due("corner(0)", x.corner(0), 1);
         due("corner(1)", x.corner(1), NONE);
         due("corner(3)", x.corner(3), 2);
-        due("corner(4)", thrown(() -> x.corner(4)), THROWN);
-        due("corner(-1)", thrown(() -> x.corner(-1)), THROWN);
-        due("without places", thrown(() -> new SureHunters().corner(0)), THROWN);
-        due("of all couples, the least", complete(4).corner(2), 0);
-        due("of all couples, not itself", complete(4).corner(0), 1);
-        due("of a place alone", made(2, "").corner(0), NONE);
+        due("corner(4)", Bench.thrown(() -> x.corner(4)), Bench.THROWN);
+        due("corner(-1)", Bench.thrown(() -> x.corner(-1)), Bench.THROWN);
+        due("without places", Bench.thrown(() -> new SureHunters().corner(0)), Bench.THROWN);
+        due("of all couples, the least", Bench.complete(4).corner(2), 0);
+        due("of all couples, not itself", Bench.complete(4).corner(0), 1);
+        due("of a place alone", Bench.made(2, "").corner(0), NONE);
     }
 
     private static void dismantling() {
         promise = 10;
-        SureHunters x = made(6, "ab bc cd da de ef");
+        SureHunters x = Bench.made(6, "ab bc cd da de ef");
         due("goes(NONE)", x.goes(NONE), 2);
         due("goes(0)", x.goes(0), 5);
         due("goes(1)", x.goes(1), 4);
@@ -363,15 +293,15 @@ public final class PromisesTest {
         due("goes(MAX)", x.goes(MAX), NONE);
         promise = 11;
         due("left()", x.left(), 15);
-        due("left() of a path", path(9).left(), 256);
-        due("left() of a ring", ring(5).left(), 31);
+        due("left() of a path", Bench.path(9).left(), 256);
+        due("left() of a ring", Bench.ring(5).left(), 31);
         promise = 12;
         due("image(5)", x.image(5), 3);
         due("image(4)", x.image(4), 3);
         due("image(0)", x.image(0), 0);
         due("image(6)", x.image(6), NONE);
         due("image(-1)", x.image(-1), NONE);
-        due("image of a long chain", path(9).image(0), 8);
+        due("image of a long chain", Bench.path(9).image(0), 8);
         x.toggle(0, 2);
         promise = 10;
         due("goes anew with the net", x.goes(NONE), 5);
@@ -379,27 +309,27 @@ public final class PromisesTest {
 
     private static void fewest() {
         promise = 13;
-        due("a path", path(5).fewest(0), 1);
-        due("a ring of 5", ring(5).fewest(0), 2);
-        due("a ring of 5, lazy", ring(5).fewest(1), 2);
-        due("a ring of 3", ring(3).fewest(0), 1);
-        due("the rook's net", rook().fewest(0), 2);
-        due("the rook's net, lazy", rook().fewest(1), 3);
-        due("three places alone", made(3, "").fewest(0), 3);
-        due("four places alone", made(4, "").fewest(0), NONE);
-        due("a path, swift", path(4).fewest(2), 1);
-        due("kind 3", path(4).fewest(3), NONE);
-        due("kind -1", path(4).fewest(-1), NONE);
-        due("kind MIN", path(4).fewest(MIN), NONE);
+        due("a path", Bench.path(5).fewest(0), 1);
+        due("a ring of 5", Bench.ring(5).fewest(0), 2);
+        due("a ring of 5, lazy", Bench.ring(5).fewest(1), 2);
+        due("a ring of 3", Bench.ring(3).fewest(0), 1);
+        due("the rook's net", Bench.rook().fewest(0), 2);
+        due("the rook's net, lazy", Bench.rook().fewest(1), 3);
+        due("three places alone", Bench.made(3, "").fewest(0), 3);
+        due("four places alone", Bench.made(4, "").fewest(0), NONE);
+        due("a path, swift", Bench.path(4).fewest(2), 1);
+        due("kind 3", Bench.path(4).fewest(3), NONE);
+        due("kind -1", Bench.path(4).fewest(-1), NONE);
+        due("kind MIN", Bench.path(4).fewest(MIN), NONE);
         due("without places", new SureHunters().fewest(0), NONE);
         // A place between two hunters of a bigger wheel: swift runners slip by where plain ones do not.
-        due("a wheel", made(7, "ab ac ad ae af ag bc cd de ef fg gb").fewest(0), 1);
-        due("a wheel, swift", made(7, "ab ac ad ae af ag bc cd de ef fg gb").fewest(2), 1);
+        due("a wheel", Bench.made(7, "ab ac ad ae af ag bc cd de ef fg gb").fewest(0), 1);
+        due("a wheel, swift", Bench.made(7, "ab ac ad ae af ag bc cd de ef fg gb").fewest(2), 1);
     }
 
     private static void timeAndStart() {
         promise = 14;
-        SureHunters x = path(5);
+        SureHunters x = Bench.path(5);
         due("time(0, 1)", x.time(0, 1), 2);
         due("time(0, 2)", x.time(0, 2), 1);
         due("time(0, 3)", x.time(0, 3), 1);
@@ -408,11 +338,11 @@ public final class PromisesTest {
         due("time(3, 1)", x.time(3, 1), NONE);
         due("time(-1, 1)", x.time(-1, 1), NONE);
         due("time(MAX, MAX)", x.time(MAX, MAX), NONE);
-        due("of a ring", ring(6).time(0, 1), NONE);
-        due("of one place", path(1).time(1, 3), 0);
-        due("of three places", made(3, "").time(2, 3), 0);
+        due("of a ring", Bench.ring(6).time(0, 1), NONE);
+        due("of one place", Bench.path(1).time(1, 3), 0);
+        due("of three places", Bench.made(3, "").time(2, 3), 0);
         due("without places", new SureHunters().time(0, 1), NONE);
-        due("a path of 9", path(9).time(0, 1), 4);
+        due("a path of 9", Bench.path(9).time(0, 1), 4);
 
         promise = 15;
         due("start(0, 1, 0)", x.start(0, 1, 0), 2);
@@ -426,18 +356,18 @@ public final class PromisesTest {
         due("start(0, 2, MAX)", x.start(0, 2, MAX), NONE);
         due("start(0, 4, 0)", x.start(0, 4, 0), NONE);
         due("start(3, 1, 0)", x.start(3, 1, 0), NONE);
-        due("of a ring: the first row", ring(6).start(0, 1, 0), 0);
-        due("four places alone", made(4, "").start(0, 3, 2), 0);
+        due("of a ring: the first row", Bench.ring(6).start(0, 1, 0), 0);
+        due("four places alone", Bench.made(4, "").start(0, 3, 2), 0);
         due("without places", new SureHunters().start(0, 1, 0), NONE);
     }
 
     private static void sure() {
         promise = 16;
-        SureHunters x = ring(6);
+        SureHunters x = Bench.ring(6);
         due("sure(0, 0)", x.sure(0, 0, NONE, NONE), 1 | 2 | 32);
         due("two hunters", x.sure(0, 3, 0, NONE), 63);
-        due("one at a time in two parts", made(4, "ab cd").sure(0, 0, NONE, NONE), 3);
-        due("in any order", made(5, "ab cd").sure(0, 4, 2, 0), 31);
+        due("one at a time in two parts", Bench.made(4, "ab cd").sure(0, 0, NONE, NONE), 3);
+        due("in any order", Bench.made(5, "ab cd").sure(0, 4, 2, 0), 31);
         due("NONE ahead", x.sure(0, 0, NONE, 1), NONE);
         due("nobody", x.sure(0, NONE, NONE, NONE), NONE);
         due("no such place", x.sure(0, 0, 6, NONE), NONE);
@@ -447,19 +377,19 @@ public final class PromisesTest {
         due("kind -1", x.sure(-1, 0, NONE, NONE), NONE);
         due("several at one place", x.sure(0, 0, 0, 0), 63);
         due("without places", new SureHunters().sure(0, 0, NONE, NONE), NONE);
-        due("lazy on the rook's net, caught or beside alone", rook().sure(1, 0, 0, NONE), 1 | 2 | 4 | 8 | 64);
+        due("lazy on the rook's net, caught or beside alone", Bench.rook().sure(1, 0, 0, NONE), 1 | 2 | 4 | 8 | 64);
     }
 
     private static void refusals() {
         promise = 17;
-        SureHunters x = ring(5);
+        SureHunters x = Bench.ring(5);
         due("refusals(0, 1)", x.refusals(0, 1), 10);
         due("refusals(0, 2)", x.refusals(0, 2), 0);
         due("refusals(0, 0)", x.refusals(0, 0), NONE);
         due("refusals(0, 4)", x.refusals(0, 4), NONE);
         due("refusals(3, 1)", x.refusals(3, 1), NONE);
         due("without places", new SureHunters().refusals(0, 1), NONE);
-        SureHunters y = made(3, "");
+        SureHunters y = Bench.made(3, "");
         due("three places alone, two hunters", y.refusals(0, 2), 3 * 2 + 3);
 
         promise = 18;
@@ -486,38 +416,38 @@ public final class PromisesTest {
     private static void trial() {
         promise = 19;
         // Seed 1: 1103527590, whose upper half is 16838; then 2524885223 (unsigned), whose upper half is 38526.
-        SureHunters x = made(2, "");
+        SureHunters x = Bench.made(2, "");
         due("16838 % 2 is the START's place", x.trial(0, 1, 1), 0);
         // Seed 3: 3310558080 (unsigned), whose upper half is 50515.
         due("the other one is never caught", x.trial(0, 1, 3), -2);
-        due("one place", path(1).trial(2, 3, MIN), 0);
-        due("16838 % 3 is 2, START is 1", path(3).trial(0, 1, 1), 1);
+        due("one place", Bench.path(1).trial(2, 3, MIN), 0);
+        due("16838 % 3 is 2, START is 1", Bench.path(3).trial(0, 1, 1), 1);
         due("kind 3", x.trial(3, 1, 1), NONE);
         due("no hunters", x.trial(0, 0, 1), NONE);
         due("four hunters", x.trial(0, 4, 1), NONE);
         due("without places", new SureHunters().trial(0, 1, 1), NONE);
         // START is 2; 16838 % 5 is 3: beside it.
-        due("beside START", path(5).trial(0, 1, 1), 1);
+        due("beside START", Bench.path(5).trial(0, 1, 1), 1);
         // A ring of 4 from 0: 16838 % 4 is 2; BEST stays at 0; 38526 % 3 is 0, the first of 1, 2, 3; then caught.
-        due("a ring that one alone does not hold", ring(4).trial(0, 1, 1), 2);
-        due("by the last turn of all", ring(9).trial(0, 1, 17032), 100);
+        due("a ring that one alone does not hold", Bench.ring(4).trial(0, 1, 1), 2);
+        due("by the last turn of all", Bench.ring(9).trial(0, 1, 17032), 100);
     }
 
     private static void helps() {
         promise = 20;
-        due("a ring of 4", ring(4).helps(0, 1), 1);
-        SureHunters x = made(4, "ac cd db");
+        due("a ring of 4", Bench.ring(4).helps(0, 1), 1);
+        SureHunters x = Bench.made(4, "ac cd db");
         due("a path is held now", x.helps(0, 1), -2);
-        due("two parts: a line that joins them", made(4, "ab cd").helps(0, 1), 2);
-        due("three parts: none", made(3, "").helps(0, 1), NONE);
-        due("three parts, two hunters", made(3, "").helps(0, 2), 1);
-        due("a ring of 3 alone and a place", made(4, "bc cd db").helps(0, 1), 1);
-        due("the second place is the first that helps", made(6, "bc cd de ef fb ac").helps(0, 1), 18);
-        due("three hunters", ring(4).helps(0, 3), NONE);
-        due("no hunters", ring(4).helps(0, 0), NONE);
-        due("kind 3", ring(4).helps(3, 1), NONE);
+        due("two parts: a line that joins them", Bench.made(4, "ab cd").helps(0, 1), 2);
+        due("three parts: none", Bench.made(3, "").helps(0, 1), NONE);
+        due("three parts, two hunters", Bench.made(3, "").helps(0, 2), 1);
+        due("a ring of 3 alone and a place", Bench.made(4, "bc cd db").helps(0, 1), 1);
+        due("the second place is the first that helps", Bench.made(6, "bc cd de ef fb ac").helps(0, 1), 18);
+        due("three hunters", Bench.ring(4).helps(0, 3), NONE);
+        due("no hunters", Bench.ring(4).helps(0, 0), NONE);
+        due("kind 3", Bench.ring(4).helps(3, 1), NONE);
         due("without places", new SureHunters().helps(0, 1), NONE);
-        SureHunters y = ring(4);
+        SureHunters y = Bench.ring(4);
         y.helps(0, 1);
         due("the net stays", y.about(1), 4);
         due("no act", y.about(7), 0);
@@ -529,29 +459,29 @@ public final class PromisesTest {
 
     private static void symmetries() {
         promise = 21;
-        due("a path", path(5).symmetries(), 2);
-        due("a ring", ring(9).symmetries(), 18);
-        due("places alone", made(9, "").symmetries(), 362880);
-        due("all couples", complete(9).symmetries(), 362880);
-        due("the rook's net", rook().symmetries(), 72);
-        due("one place", path(1).symmetries(), 1);
+        due("a path", Bench.path(5).symmetries(), 2);
+        due("a ring", Bench.ring(9).symmetries(), 18);
+        due("places alone", Bench.made(9, "").symmetries(), 362880);
+        due("all couples", Bench.complete(9).symmetries(), 362880);
+        due("the rook's net", Bench.rook().symmetries(), 72);
+        due("one place", Bench.path(1).symmetries(), 1);
         due("without places", new SureHunters().symmetries(), 1);
-        due("one without", made(7, "ab bc cd de ef cg").symmetries(), 1);
+        due("one without", Bench.made(7, "ab bc cd de ef cg").symmetries(), 1);
         promise = 22;
-        SureHunters x = made(5, "ab bc cd be");
+        SureHunters x = Bench.made(5, "ab bc cd be");
         due("alike(3)", x.alike(3), 3);
         due("alike(4)", x.alike(4), 0);
         due("alike(0)", x.alike(0), 0);
         due("alike(5)", x.alike(5), NONE);
         due("alike(-1)", x.alike(-1), NONE);
-        due("places alone", made(9, "").alike(8), 0);
-        due("like lines, but not alike", made(9, "ab bc cd de ef fa gh hi ig").alike(8), 6);
+        due("places alone", Bench.made(9, "").alike(8), 0);
+        due("like lines, but not alike", Bench.made(9, "ab bc cd de ef fa gh hi ig").alike(8), 6);
         due("without places", new SureHunters().alike(0), NONE);
     }
 
     private static void guard() {
         promise = 23;
-        SureHunters x = ring(5);
+        SureHunters x = Bench.ring(5);
         due("one place", x.guard(1), 4);
         due("two beside", x.guard(3), 6);
         due("all", x.guard(31), 0);
@@ -561,11 +491,11 @@ public final class PromisesTest {
         due("below 0", x.guard(-1), NONE);
         due("MIN", x.guard(MIN), NONE);
         due("without places", new SureHunters().guard(1), NONE);
-        due("two apart in a path", path(3).guard(5), 0);
-        due("ends of two parts", made(4, "ab cd").guard(1 | 4), 2);
+        due("two apart in a path", Bench.path(3).guard(5), 0);
+        due("ends of two parts", Bench.made(4, "ab cd").guard(1 | 4), 2);
 
         promise = 24;
-        SureHunters y = made(4, "ab cd");
+        SureHunters y = Bench.made(4, "ab cd");
         due("the hunter is where the runner can't harm", y.guards(5, 0, 1), 1);
         due("the hunter is in the other part", y.guards(5, 2, 1), 0);
         due("the hunter outside", y.guards(5, 1, 3), 0);
@@ -581,22 +511,22 @@ public final class PromisesTest {
 
     private static void sweep() {
         promise = 25;
-        due("a path, one hunter", path(5).sweep(1), 4);
-        due("one place", path(1).sweep(1), 0);
-        due("one place, two hunters", path(1).sweep(2), 0);
-        due("two places", path(2).sweep(1), 1);
-        due("two places alone, one hunter", made(2, "").sweep(1), NONE);
-        due("two places alone, two hunters", made(2, "").sweep(2), 0);
-        due("a ring, one hunter", ring(3).sweep(1), NONE);
-        due("all couples of 4, two hunters", complete(4).sweep(2), 1);
-        due("all couples of 5, two hunters", complete(5).sweep(2), NONE);
-        due("a ring of 6, two hunters", ring(6).sweep(2), 2);
-        due("no hunters", path(3).sweep(0), NONE);
-        due("three hunters", path(3).sweep(3), NONE);
+        due("a path, one hunter", Bench.path(5).sweep(1), 4);
+        due("one place", Bench.path(1).sweep(1), 0);
+        due("one place, two hunters", Bench.path(1).sweep(2), 0);
+        due("two places", Bench.path(2).sweep(1), 1);
+        due("two places alone, one hunter", Bench.made(2, "").sweep(1), NONE);
+        due("two places alone, two hunters", Bench.made(2, "").sweep(2), 0);
+        due("a ring, one hunter", Bench.ring(3).sweep(1), NONE);
+        due("all couples of 4, two hunters", Bench.complete(4).sweep(2), 1);
+        due("all couples of 5, two hunters", Bench.complete(5).sweep(2), NONE);
+        due("a ring of 6, two hunters", Bench.ring(6).sweep(2), 2);
+        due("no hunters", Bench.path(3).sweep(0), NONE);
+        due("three hunters", Bench.path(3).sweep(3), NONE);
         due("without places", new SureHunters().sweep(1), NONE);
 
         promise = 26;
-        SureHunters x = complete(4);
+        SureHunters x = Bench.complete(4);
         due("round 0", x.swept(2, 0, 0), 0);
         due("round 0", x.swept(2, 0, 1), 1);
         due("round 1", x.swept(2, 1, 0), 2);
@@ -608,7 +538,7 @@ public final class PromisesTest {
         due("one hunter can't", x.swept(1, 0, 0), NONE);
         due("three hunters", x.swept(3, 0, 0), NONE);
         due("without places", new SureHunters().swept(1, 0, 0), NONE);
-        SureHunters y = path(5);
+        SureHunters y = Bench.path(5);
         for (int r = 0; r <= 4; r++) {
             due("along a path", y.swept(1, r, 0), r);
         }
@@ -620,7 +550,7 @@ public final class PromisesTest {
 
     private static void begin() {
         promise = 27;
-        SureHunters x = ring(5);
+        SureHunters x = Bench.ring(5);
         due("three", x.begin(2, 4, 0, 3, 1), 3);
         due("rising", x.scene(10) * 100 + x.scene(11) * 10 + x.scene(12), 34);
         due("an act", x.about(7), 1);
@@ -642,7 +572,7 @@ public final class PromisesTest {
 
     private static void scene() {
         promise = 28;
-        SureHunters x = path(5);
+        SureHunters x = Bench.path(5);
         due("without a scene", x.scene(0), -2);
         x.begin(2, 1, 0, NONE, 4);
         due("kind", x.scene(0), 2);
@@ -670,7 +600,7 @@ public final class PromisesTest {
         due("turn when it is caught", x.scene(3), 0);
         due("worth when it is caught", x.scene(6), 0);
         due("rounds", x.scene(4), 1);
-        SureHunters y = ring(4);
+        SureHunters y = Bench.ring(4);
         y.begin(0, 0, NONE, NONE, 2);
         due("worth NONE", y.scene(6), NONE);
         y.hunt(1, NONE, NONE);
@@ -679,7 +609,7 @@ public final class PromisesTest {
 
     private static void best() {
         promise = 29;
-        SureHunters x = path(5);
+        SureHunters x = Bench.path(5);
         due("without a scene", x.best(0), NONE);
         x.begin(0, 0, 4, NONE, 2);
         due("worth", x.scene(6), 2);
@@ -692,12 +622,12 @@ public final class PromisesTest {
         due("the runner has one place", x.best(1), NONE);
         x.run(3);
         due("caught", x.best(0), NONE);
-        SureHunters y = ring(5);
+        SureHunters y = Bench.ring(5);
         y.begin(0, 3, NONE, NONE, 0);
         due("NONE is like NONE: the first row", y.best(0), 2);
         y.hunt(4, NONE, NONE);
         due("the runner where it is not sure", y.best(0), 1);
-        SureHunters z = made(6, "ab bc cd de ef");
+        SureHunters z = Bench.made(6, "ab bc cd de ef");
         z.begin(1, 0, 5, NONE, 2);
         due("lazy: one alone leaves", z.best(0) * 10 + z.best(1), 4);
         z.begin(0, 0, 5, NONE, 2);
@@ -706,7 +636,7 @@ public final class PromisesTest {
 
     private static void safe() {
         promise = 30;
-        SureHunters x = ring(6);
+        SureHunters x = Bench.ring(6);
         due("without a scene", x.safe(), NONE);
         x.begin(0, 0, NONE, NONE, 3);
         due("the hunters' turn", x.safe(), NONE);
@@ -725,7 +655,7 @@ public final class PromisesTest {
 
     private static void hunt() {
         promise = 31;
-        SureHunters x = made(5, "ab bc cd de");
+        SureHunters x = Bench.made(5, "ab bc cd de");
         due("without a scene", x.hunt(0, NONE, NONE), false);
         x.begin(0, 0, 2, NONE, 4);
         due("too few", x.hunt(0, NONE, NONE), false);
@@ -749,14 +679,14 @@ public final class PromisesTest {
         due("lazy: none leaves", x.hunt(2, 0, 2), true);
         x.begin(1, 1, 2, NONE, 4);
         due("lazy: 1 to 2 and 2 to 3 are two", x.hunt(2, 3, NONE), false);
-        SureHunters y = ring(3);
+        SureHunters y = Bench.ring(3);
         y.begin(1, 0, 1, NONE, 2);
         due("lazy: seen as 0 to 2 it is one", y.hunt(1, 2, NONE), true);
     }
 
     private static void run() {
         promise = 32;
-        SureHunters x = path(5);
+        SureHunters x = Bench.path(5);
         due("without a scene", x.run(0), false);
         x.begin(0, 0, NONE, NONE, 2);
         due("not its turn", x.run(2), false);
@@ -785,7 +715,7 @@ public final class PromisesTest {
 
     private static void play() {
         promise = 33;
-        SureHunters x = path(5);
+        SureHunters x = Bench.path(5);
         due("without a scene", x.play(1), NONE);
         x.begin(0, 0, NONE, NONE, 2);
         due("play(0)", x.play(0), NONE);
@@ -803,7 +733,7 @@ public final class PromisesTest {
         due("is caught", x.play(1), NONE);
         due("undone at once", x.undo(), true);
         due("rounds", x.scene(4), 1);
-        SureHunters y = ring(5);
+        SureHunters y = Bench.ring(5);
         y.begin(0, 0, NONE, NONE, 2);
         due("for ever", y.play(100), 100);
         due("rounds", y.scene(4), 50);
@@ -811,7 +741,7 @@ public final class PromisesTest {
 
     private static void toggle() {
         promise = 34;
-        SureHunters x = path(4);
+        SureHunters x = Bench.path(4);
         due("it comes", x.toggle(0, 3), 1);
         due("lines", x.about(1), 4);
         due("girth", x.about(3), 4);
@@ -833,7 +763,7 @@ public final class PromisesTest {
 
     private static void become() {
         promise = 35;
-        SureHunters x = made(6, "bc cd de eb ab ef");
+        SureHunters x = Bench.made(6, "bc cd de eb ab ef");
         due("those left", x.become(0), 4);
         due("numbered anew", x.near(0), 1 | 2 | 8);
         due("lines", x.about(1), 4);
@@ -854,20 +784,20 @@ public final class PromisesTest {
         due("the scene stays", x.scene(0), 0);
         x.become(1);
         due("no scene", x.scene(0), -2);
-        due("five places can't be twice", path(5).become(2), NONE);
-        due("four can", path(4).become(2), 8);
-        due("one twice", path(1).become(2), 2);
+        due("five places can't be twice", Bench.path(5).become(2), NONE);
+        due("four can", Bench.path(4).become(2), 8);
+        due("one twice", Bench.path(1).become(2), 2);
         due("without places", new SureHunters().become(0), NONE);
         due("without places", new SureHunters().become(1), NONE);
         due("without places", new SureHunters().become(2), NONE);
-        SureHunters y = ring(5);
+        SureHunters y = Bench.ring(5);
         due("all are left", y.become(0), 5);
         due("an act all the same", y.about(7), 1);
     }
 
     private static void undo() {
         promise = 36;
-        SureHunters x = path(5);
+        SureHunters x = Bench.path(5);
         due("there is none", x.undo(), false);
         x.begin(0, 0, NONE, NONE, 4);
         x.hunt(1, NONE, NONE);
@@ -897,7 +827,7 @@ public final class PromisesTest {
         x.become(1);
         x.undo();
         due("become is undone", x.near(0), 1 | 2 | 4);
-        feed(x, "abc");
+        Bench.feed(x, "abc");
         x.become(0);
         x.undo();
         due("the tape stays", x.about(8), 3);
