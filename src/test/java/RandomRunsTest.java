@@ -1,27 +1,14 @@
-import java.lang.reflect.InvocationTargetException;
-import java.lang.reflect.Method;
-import java.lang.reflect.Modifier;
-import java.util.ArrayList;
-import java.util.Arrays;
-import java.util.HashMap;
-import java.util.List;
-import java.util.Map;
-import java.util.NoSuchElementException;
 import java.util.Random;
 
 /** Drawn runs of calls, each answered by the class and by the model. The seeds are fixed. */
 public final class RandomRunsTest {
-    private static final int THROWN = Integer.MIN_VALUE;
     private static final int RUNS = Integer.getInteger("runs", 400);
     private static final int SEED = Integer.getInteger("seed", 1);
-    private static final Map<String, Method> METHODS = new HashMap<>();
     private static int wrong = 0;
 
     private final Random random;
-    private final SureHunters real = new SureHunters();
-    private final Model model = new Model();
-    private final List<String> told = new ArrayList<>();
-    private int calls = 0;
+    private final Twins twins = new Twins();
+    private final Model model = twins.model;
 
     private RandomRunsTest(Random random) {
         this.random = random;
@@ -32,7 +19,7 @@ public final class RandomRunsTest {
         for (int run = 0; run < RUNS && wrong < 5; run++) {
             RandomRunsTest test = new RandomRunsTest(new Random(1000003L * SEED + run));
             test.goThrough(run);
-            calls += test.calls;
+            calls += test.twins.calls;
         }
         System.out.println(RUNS + " runs, " + calls + " calls, " + wrong + " wrong");
         System.exit(wrong == 0 ? 0 : 1);
@@ -41,11 +28,11 @@ public final class RandomRunsTest {
     private void goThrough(int run) {
         // Nine places are slow in the model: most nets are smaller.
         int most = run % 8 == 0 ? 9 : run % 3 == 0 ? 7 : 6;
-        for (int i = 0; calls < 470; i++) {
+        for (int i = 0; twins.calls < 470; i++) {
             boolean renew = i == 0 || random.nextInt(60) == 0;
             if (!(renew ? tellNet(random.nextInt(most + 1)) : anyCall())) {
                 wrong++;
-                System.out.println("run " + run + ": " + told);
+                System.out.println("run " + run + ": " + twins.told);
                 return;
             }
         }
@@ -53,22 +40,7 @@ public final class RandomRunsTest {
 
     private boolean tellNet(int places) {
         String text = random.nextInt(6) == 0 ? spoiltText() : netText(places);
-        if (!check("end", 0)) {
-            return false;
-        }
-        byte[] bytes = text.getBytes(java.nio.charset.StandardCharsets.ISO_8859_1);
-        byte[] padded = Arrays.copyOf(bytes, (bytes.length + 19) / 20 * 20);
-        for (int i = 0; i < padded.length; i += 20) {
-            int[] five = new int[5];
-            for (int j = 0; j < 20; j++) {
-                five[j / 4] = five[j / 4] << 8 | padded[i + j] & 255;
-            }
-            if (!check("feed", five)) {
-                return false;
-            }
-        }
-        return check("end", bytes.length) && check("about", 8) && check("net") && check("fault", 0)
-                && check("fault", 1) && check("about", 0);
+        return twins.tell(text) && check("fault", 0) && check("fault", 1) && check("about", 0);
     }
 
     private String netText(int places) {
@@ -227,7 +199,7 @@ public final class RandomRunsTest {
             "scene", "best", "hunt", "run", "play", "toggle", "become", "end"};
         int[] odd = {Integer.MIN_VALUE, Integer.MAX_VALUE, -2, -1, 0, 1, 2, 3, 8, 9, 10, 13, 31, 32, 33, 64, 511, 512};
         String name = names[random.nextInt(names.length)];
-        int[] a = new int[methodOf(Model.class, name).getParameterCount()];
+        int[] a = new int[Twins.parametersOf(name)];
         for (int i = 0; i < a.length; i++) {
             a[i] = random.nextBoolean() ? place() : odd[random.nextInt(odd.length)];
         }
@@ -262,38 +234,6 @@ public final class RandomRunsTest {
     }
 
     private boolean check(String name, int... a) {
-        calls++;
-        int due = answer(model, name, a);
-        int got = answer(real, name, a);
-        told.add(name + Arrays.toString(a) + "=" + (due == THROWN ? "throws" : "" + due));
-        if (got != due) {
-            told.add("but answered " + (got == THROWN ? "throws" : "" + got));
-        }
-        return got == due;
-    }
-
-    private int answer(Object of, String name, int[] a) {
-        try {
-            Object answer = methodOf(of.getClass(), name).invoke(of, Arrays.stream(a).boxed().toArray());
-            return answer instanceof Boolean b ? (b ? 1 : 0) : (Integer) answer;
-        } catch (InvocationTargetException e) {
-            if (e.getCause() instanceof NoSuchElementException) {
-                return THROWN;
-            }
-            throw new IllegalStateException(told + " and then " + name + Arrays.toString(a), e);
-        } catch (IllegalAccessException e) {
-            throw new IllegalStateException(e);
-        }
-    }
-
-    private static Method methodOf(Class<?> owner, String name) {
-        return METHODS.computeIfAbsent(owner.getName() + "." + name, key -> {
-            for (Method m : owner.getDeclaredMethods()) {
-                if (m.getName().equals(name) && !Modifier.isPrivate(m.getModifiers())) {
-                    return m;
-                }
-            }
-            throw new IllegalStateException("no method " + key);
-        });
+        return twins.check(name, a);
     }
 }

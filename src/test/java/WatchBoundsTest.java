@@ -75,6 +75,22 @@ public final class WatchBoundsTest {
         Bench.due("two on one place", y.swept(2, 0, 0) * 10 + y.swept(2, 0, 1), 0);
     }
 
+    @Bench.Says(promise = 0, value = "SWEEP: the fewest ROUNDS, 60 at most")
+    static void theLongestSweep() {
+        // No net of up to nine places has a longer one (all were tried), so none ever comes to 60.
+        SureHunters x = Bench.made(9, "ad af ai bd bf bi cf dg eg eh ei fh");
+        String[] rows = ("27 45 58 01 38 46 47 58 01 35 26 45 78 05 13 08 45 67 35 01 58 47 "
+                + "46 38 01 58 47 56 03 18 05 28 45 67 35 01 58 47 46 38 01 58 24 57").split(" ");
+        Bench.due("one", x.sweep(1), NONE);
+        Bench.due("two", x.sweep(2), 43);
+        for (int r = 0; r < rows.length; r++) {
+            Bench.due("round " + r, x.swept(2, r, 0) * 10 + x.swept(2, r, 1), Integer.parseInt(rows[r]));
+        }
+        Bench.due("behind the last", x.swept(2, 44, 0), NONE);
+        SureHunters star = Bench.made(9, "ab ac ad ae af ag ah ai");
+        Bench.due("the longest of one: a star's arms, one by one", star.sweep(1), 14);
+    }
+
     @Bench.Says(promise = 0, value = "of like ones the first, row by row (the row at the beginning, too).")
     static void theFirstOfLikeSweeps() {
         SureHunters x = Bench.path(4);
